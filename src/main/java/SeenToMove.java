@@ -709,7 +709,6 @@ public final class SeenToMove {
         final long[] figureNames = new long[FIGURES];
         final long[] lookerNames = new long[LOOKERS];
         final int[] hedges = new int[CELLS];
-        final int[] rowOwners = new int[EDGE];
         final int[] firstLand = new int[OWNERS];
         final int[] figureOwners = new int[FIGURES];
         final int[] everys = new int[FIGURES];
@@ -724,7 +723,6 @@ public final class SeenToMove {
             figures = 0;
             lookers = 0;
             fill(hedges, 0);
-            fill(rowOwners, NONE);
         }
 
         void copyFrom(Field other) {
@@ -737,7 +735,6 @@ public final class SeenToMove {
             copyNames(other.figureNames, figureNames);
             copyNames(other.lookerNames, lookerNames);
             copy(other.hedges, hedges);
-            copy(other.rowOwners, rowOwners);
             copy(other.firstLand, firstLand);
             copy(other.figureOwners, figureOwners);
             copy(other.everys, everys);
@@ -813,14 +810,14 @@ public final class SeenToMove {
         }
 
         /** Behind the text: the land, and hour 0. */
-        void begin() {
+        void begin(int[] rowOwners) {
             hour = 0;
             fill(gone, 0);
             fill(closed, 0);
             fill(owned, NONE);
             for (int y = 0; y < field.high; y++) {
                 for (int x = 0; x < field.wide; x++) {
-                    put(owned, EDGE * y + x, at(field.rowOwners, y));
+                    put(owned, EDGE * y + x, at(rowOwners, y));
                 }
             }
             for (int f = 0; f < field.figures; f++) {
@@ -1150,16 +1147,10 @@ public final class SeenToMove {
             return takes;
         }
 
-        boolean takesSign(int sign) {
-            boolean takes = isSign(sign);
-            if (takes) {
-                advance();
-            }
-            return takes;
-        }
-
         void needSign(int sign) {
-            if (!takesSign(sign)) {
+            if (isSign(sign)) {
+                advance();
+            } else {
                 fail(CANT_COME);
             }
         }
@@ -1205,6 +1196,7 @@ public final class SeenToMove {
         final Tape tape;
         final Field field = new Field();
         final State state = new State(field);
+        private final int[] rowOwners = new int[EDGE];
         private boolean isSized;
         private boolean isPlaced;
 
@@ -1215,6 +1207,7 @@ public final class SeenToMove {
         int read() {
             int lines = 0;
             field.clear();
+            fill(rowOwners, NONE);
             isSized = false;
             isPlaced = false;
             tape.start(FIELD_BYTES);
@@ -1232,7 +1225,7 @@ public final class SeenToMove {
                 lines++;
             }
             if (tape.fault == 0) {
-                state.begin();
+                state.begin(rowOwners);
             }
             return lines;
         }
@@ -1291,10 +1284,10 @@ public final class SeenToMove {
             tape.advance();
             int owner = tape.needNameOf(field.ownerNames, field.owners);
             int y = tape.needNumber(0, field.high - 1);
-            if (at(field.rowOwners, y) != NONE) {
+            if (at(rowOwners, y) != NONE) {
                 tape.failAt(BAD_NAME, tape.behind);
             }
-            put(field.rowOwners, y, owner);
+            put(rowOwners, y, owner);
         }
 
         private void readFigure() {

@@ -190,6 +190,7 @@ public final class PromisesTest {
         due("wide", x.count(0), 9);
         due("high", x.count(1), 2);
         due("zeros ahead", field(x, "field 009 02;"), 1);
+        due("6 by 6 without", field(x, "owner a;") * 100 + x.count(0) * 10 + x.count(1), 166);
         due("field behind an owner", field(x, "owner a; field 9 9;"), 2);
         due("names of seven letters", field(x, "owner abcdefg; owner abcdefh; owner xbcdefg; owner bcdefg;"), 4);
         due("all there may be", field(x, "owner a; owner b; owner c; owner d; figure e a 0 0 east 1; figure f a 0 1 east 1; figure g a 0 2 east 1;"
@@ -252,6 +253,12 @@ public final class PromisesTest {
         fault("hedge 0 0; hedge 0 0;", 19, 3);
         fault("owner a; owner a;", 15, 3);
         fault("owner a; looker a 0 0 east;", 16, 3);
+        fault("looker a 0 0 east; owner a;", 25, 3);
+        fault("owner b; figure a b 0 0 east 1; looker a 1 0 east;", 39, 3);
+        fault("looker a 0 0 east; looker a 1 0 east;", 26, 3);
+        fault("looker a 0 0 north 5; looker b 0 0 east;", 20, 1);
+        fault("looker a 0 0 seen;", 13, 1);
+        fault("looker a 0 0 b;", 13, 1);
         fault("land a 0;", 5, 3);
         fault("looker a 0 0 east; land a 0;", 24, 3);
         fault("owner a; land a 0; land a 0;", 26, 3);
@@ -533,6 +540,28 @@ public final class PromisesTest {
         book(x, "m shuts;", 0);
         book(x, "", 1);
         due("nothing was done", x.undo(), -1);
+        String[] before = new String[8];
+        before[0] = all(x);
+        x.turn(0, 1);
+        before[1] = all(x);
+        x.walk(0, 1);
+        before[2] = all(x);
+        x.shut(0);
+        before[3] = all(x);
+        x.open(0);
+        before[4] = all(x);
+        x.face(0, 1);
+        before[5] = all(x);
+        x.hours(2);
+        before[6] = all(x);
+        x.drawn(2, 5);
+        before[7] = all(x);
+        due("a book of which some line is lived", book(x, "hour 1; hour 1; m opens; m opens;", 1) >= 2 ? 1 : 0, 1);
+        due("hour", x.now(0), 6);
+        sentence(x, "of o");
+        undoAndUndoAgain(x, before);
+        due("the sentence is no act, and stays", x.said(-1), 1);
+        x = with("owner o; figure a o 2 2 east 1; looker m 0 0 east;");
         x.turn(0, 1);
         x.walk(0, 1);
         x.shut(0);
@@ -540,8 +569,7 @@ public final class PromisesTest {
         x.face(0, 1);
         x.hours(2);
         x.drawn(2, 5);
-        due("a book of which some line is lived", book(x, "hour 1; hour 1; m opens; m opens;", 1) >= 2 ? 1 : 0, 1);
-        due("hour", x.now(0), 6);
+        book(x, "hour 2; m turns east; m turns east; hour 1;", 1);
         due("the book, whole", x.undo(), 7);
         due("hour", x.now(0), 4);
         due("drawn", x.undo(), 6);
@@ -581,6 +609,33 @@ public final class PromisesTest {
         due("hour", x.now(0), 15 + 16 * 60);
     }
 
+    private static void undoAndUndoAgain(SeenToMove x, String[] before) {
+        for (int i = 7; i >= 0; i--) {
+            due("undo to " + i, x.undo(), i);
+            due("all as it was ahead of act " + i, all(x).equals(before[i]), true);
+        }
+        due("nothing", x.undo(), -1);
+    }
+
+    /** All that can be looked at, as a text. */
+    private static String all(SeenToMove x) {
+        StringBuilder b = new StringBuilder();
+        for (int what = 0; what < 5; what++) {
+            b.append(x.now(what)).append(' ').append(x.land(what)).append(' ').append(x.count(what)).append(' ');
+        }
+        for (int what = 0; what < 8; what++) {
+            for (int i = 0; i < 6; i++) {
+                int n = i;
+                int w = what;
+                b.append(orThrows(() -> x.figure(n, w))).append(' ').append(x.looker(i, what)).append(' ');
+            }
+        }
+        for (int i = 0; i < 324; i++) {
+            b.append(x.cell(i % 9, i / 9 % 9, i / 81)).append(' ');
+        }
+        return b.toString();
+    }
+
     private static void whereAndComes() {
         SeenToMove x = with("field 3 2; owner o; figure a o 0 0 east 1; looker m 1 1 south;");
         promise = 18;
@@ -603,6 +658,14 @@ public final class PromisesTest {
         due("at 198", late.comes(0, 3, 0), 198);
         due("where in 200", late.where(0, 200), 3);
         due("not in 200", late.comes(0, 4, 0), -1);
+        due("the first cell of the next row by its X", late.comes(0, 9, 0), -1);
+        SeenToMove last = with("field 9 9; owner o; figure a o 0 0 south 8;");
+        due("at 200", last.comes(0, 6, 0), 200);
+        due("at 208", last.comes(0, 7, 0), -1);
+        last.hours(7);
+        due("at 201", last.comes(0, 7, 0), -1);
+        last.hours(1);
+        due("at 200", last.comes(0, 7, 0), 200);
         for (int i = 0; i < 17; i++) {
             late.hours(60);
         }
@@ -710,6 +773,8 @@ public final class PromisesTest {
         // behind 6 hours at 6 0, 7 turned, 9 at 6 2, 10 turned, 16 at 0 2, 17 turned, 19 at 0 0
         due("till it is there again", y.blind(0, 0, 0, 18), -1);
         due("till it is there again", y.blind(0, 0, 0, 19), 0);
+        due("60 hours", y.blind(0, 0, 0, 60), 0);
+        due("the first cell of the next row by its X", with("field 9 2; owner o; figure a o 0 0 south 1;").blind(0, 9, 0, 60), -1);
         for (int i = 0; i < 17; i++) {
             y.hours(60);
         }
@@ -779,6 +844,10 @@ public final class PromisesTest {
         due("by the latest above 0", x.ask(), 9);
         field(x, "field 2 2;");
         due("what was told stays", x.ask(), 9);
+        // Shut in by hedges, all stay by whatever hour.
+        SeenToMove y = with("field 2 9; hedge 1 0; hedge 0 1;");
+        due("shut in", fits(y, 0, 0, 0, 0), 36);
+        due("no hour tells them: of like ones the first", y.ask(), 1);
     }
 
     private static void counts() {
@@ -830,6 +899,9 @@ public final class PromisesTest {
 
     private static void draws() {
         promise = 34;
+        SeenToMove one = with("owner o; figure a o 0 0 east 1;");
+        due("drawn(1, 0)", one.drawn(1, 0), 1);
+        due("it goes", one.figure(0, 0), 1);
         SeenToMove x = with("owner o; figure a o 0 0 east 1; looker m 3 3 east; looker n 1 4 east;");
         due("not as told", x.drawn(0, 1) + x.drawn(61, 1) + x.drawn(-1, 1), -3);
         // Told again with the draws themselves: a run of the same acts must come to the same.
@@ -894,6 +966,11 @@ public final class PromisesTest {
         int before = x.figure(0, 5);
         x.odds(0, 30, 3);
         due("from now on", x.figure(0, 5) - before, 0);
+        // Turned thrice: by 5 it goes in hour 20, by 7 (turned twice) in hour 21.
+        SeenToMove y = with("field 3 3; owner o; hedge 0 0; hedge 1 1; figure a o 0 1 west 5; figure b o 2 0 north 7;");
+        due("in the 20th hour", y.odds(0, 7, 1), 7);
+        due("in the 21st hour", y.odds(1, 7, 1), 0);
+        due("one seed", y.odds(0, 1, 1), 1);
     }
 
     private static void books() {
