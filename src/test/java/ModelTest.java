@@ -8,6 +8,7 @@ import java.util.Random;
 
 /** Runs of calls by chance: SeenToMove and Model must answer alike. An argument: how many runs. */
 public final class ModelTest {
+    private static final int CALLS = 512;
     private static final Map<String, Method> OF_CLASS = methods(SeenToMove.class);
     private static final Map<String, Method> OF_MODEL = methods(Model.class);
     private static final Map<String, Map<String, Integer>> ANSWERED = new HashMap<>();
@@ -18,6 +19,7 @@ public final class ModelTest {
     private final Random random;
     private final RandomTexts texts;
     private boolean wrong;
+    private int calls;
 
     private ModelTest(long seed) {
         random = new Random(seed);
@@ -74,6 +76,10 @@ public final class ModelTest {
     }
 
     private String call(String name, Object... args) {
+        // Behind so many calls the document promises nothing.
+        if (++calls > CALLS) {
+            return "";
+        }
         String is = answer(OF_CLASS.get(name), program, args);
         String due = answer(OF_MODEL.get(name), model, args);
         log.add(name + java.util.Arrays.toString(args) + " = " + is);
@@ -117,11 +123,11 @@ public final class ModelTest {
     }
 
     private void run() {
-        int calls = 1 + random.nextInt(480);
+        int most = 1 + random.nextInt(random.nextInt(3) == 0 ? 500 : 250);
         if (random.nextInt(20) != 0) {
             newField();
         }
-        for (int i = 0; log.size() < calls && !wrong; i++) {
+        while (calls < most && !wrong) {
             step();
         }
         dump();
@@ -249,16 +255,16 @@ public final class ModelTest {
         }
     }
 
-    /** All that can be looked at. */
+    /** All that can be looked at, as far as there are calls left. */
     private void dump() {
         for (int f = 0; f < model.count(3); f++) {
             for (int what = 0; what < 8; what++) {
                 call("figure", f, what);
             }
             call("line", f);
-            for (int i = 0; i < 30; i++) {
-                call("byteAt", i);
-            }
+        }
+        for (int i = 0; i < 30; i++) {
+            call("byteAt", i);
         }
         for (int l = 0; l < model.count(4); l++) {
             for (int what = 0; what < 6; what++) {
@@ -267,9 +273,8 @@ public final class ModelTest {
         }
         for (int x = 0; x < model.count(0); x++) {
             for (int y = 0; y < model.count(1); y++) {
-                for (int what = 0; what < 4; what++) {
-                    call("cell", x, y, what);
-                }
+                call("cell", x, y, 3);
+                call("cell", x, y, random.nextInt(3));
             }
         }
         for (int i = 0; i < 6; i++) {
