@@ -3,6 +3,7 @@ import java.util.List;
 
 /** Tests of which each stands for one sentence of the document. */
 abstract class Boundary extends Calls {
+    static final String WHAT_IT_IS = "## What it is";
     static final String TERMS = "## Terms";
     static final String RULES = "==== 2.";
     static final String WHAT_WOULD_BE = "==== 3.";

@@ -14,7 +14,7 @@ import java.util.concurrent.atomic.AtomicReference;
 /** A test of its own for each sentence of the document that names a boundary case; a sentence quoted must stand there. */
 public final class BoundaryTest {
     private static final Class<?>[] TESTS = {TextBoundaries.class, RuleBoundaries.class, CallBoundaries.class};
-    private static final String[] HEADINGS = {"## Terms", "==== 2.", "==== 3."};
+    private static final String[] HEADINGS = {"==== 2.", "==== 3."};
     private static final int PROMISES = 42;
     private static final int LONGEST_MILLIS = 30_000;
 
@@ -94,7 +94,7 @@ public final class BoundaryTest {
         return faults;
     }
 
-    /** Where the sentence must stand: the terms, a paragraph of rules, or under its first promise. */
+    /** Where the sentence must stand: under a heading, in a paragraph of rules, or under its first promise. */
     private static String section(String doc, Says says) {
         String heading = says.under().isEmpty() ? "## Promise " + says.promise()[0] + ":" : says.under();
         int start = doc.indexOf(heading);

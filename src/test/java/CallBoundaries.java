@@ -9,6 +9,17 @@ final class CallBoundaries extends Boundary {
         return new int[] {MIN, -1, many, MAX};
     }
 
+    @Says(promise = {1, 16, 17}, under = WHAT_IT_IS, text = "An object is used for at most 512 calls after it has been made")
+    static void objectStands512Calls() {
+        SeenToMove x = with("field 9 9; owner o; figure a o 0 0 east 1; looker m 8 8 east;");
+        // 7 calls for the field; 252 times two more; the last one is the 512th.
+        for (int i = 0; i < 252; i++) {
+            due("call " + (8 + 2 * i) + ", an act", i % 4 == 3 ? x.drawn(60, i) : i % 4 == 2 ? x.turn(0, 1) : i % 4 == 1 ? x.hours(60) : x.shut(0), i % 2 * 60);
+            due("call " + (9 + 2 * i) + ", undo()", x.undo(), 0);
+        }
+        due("call 512", x.hours(60), 60);
+    }
+
     @Says(promise = 1, text = "A FIELD of 6 by 6 without anything; an empty tape.")
     static void newObject() {
         SeenToMove x = new SeenToMove();
@@ -57,6 +68,11 @@ final class CallBoundaries extends Boundary {
         x.feed(0x62636465, 0x673b0000, 0, 0, 0);
         x.end(26);
         due("owner abcdef;owner abcdeg;", x.field(), 2);
+        x.feed(0x6f776e65, 0x723b3b3b, 0x3b3b3b3b, 0x3b3b3b3b, 0x3b3b3b3b);
+        x.end(5);
+        x.feed(0x20613b3b, 0, 0, 0, 0);
+        x.end(8);
+        due("owner, and behind it: a;", x.field(), 1);
         // A byte from 128 on at the top of a number below 0.
         x.feed(0xe1000000, 0, 0, 0, 0);
         x.end(1);

@@ -112,7 +112,7 @@ final class RuleBoundaries extends Boundary {
         due("the rim in the north", x.walk(0, 3), 1);
         due("the rim in the east", x.walk(1, 0), 1);
         due("the rim in the south", x.walk(1, 1), 1);
-        SeenToMove y = with("field 3 3; owner o; looker m 1 1 west; hedge 1 0; figure a o 2 1 east 9; looker n 1 2 east;");
+        SeenToMove y = with("field 3 3; owner o; looker m 1 1 south; hedge 1 0; figure a o 2 1 east 9; looker n 1 2 east;");
         due("a hedge", y.walk(0, 3), 2);
         due("a figure", y.walk(0, 0), 3);
         due("a looker", y.walk(0, 1), 3);
@@ -120,7 +120,7 @@ final class RuleBoundaries extends Boundary {
         y.shut(0);
         due("shut, too", y.walk(0, 2), 0);
         due("he is there", y.looker(0, 0) * 10 + y.looker(0, 1), 1);
-        due("he looks the same way", y.looker(0, 2), 2);
+        due("he looks the same way", y.looker(0, 2), 1);
         due("cell(0, 1, 2)", y.cell(0, 1, 2), 0);
         due("cell(1, 1, 2)", y.cell(1, 1, 2), NONE);
     }
@@ -210,6 +210,23 @@ final class RuleBoundaries extends Boundary {
         due("b is seen now", out.figure(1, 5) * 10 + out.figure(1, 2), 13);
     }
 
+    @Says(promise = {8, 10, 16}, under = RULES, text = "if it can go on, it goes there, and that cell is its OWNER's")
+    static void cellGoneToIsItsOwners() {
+        SeenToMove x = with("field 5 2; owner r; owner b; land r 0; figure a b 0 0 east 1; figure c r 0 1 east 1; hedge 3 0;");
+        x.hours(3);
+        due("a went two cells and turned", x.figure(0, 5) * 10 + x.figure(0, 2), 21);
+        due("cell(2, 0, 3)", x.cell(2, 0, 3), 1);
+        due("the hedge's cell stays r's", x.cell(3, 0, 3), 0);
+        due("nobody's cell is r's", x.cell(3, 1, 3), 0);
+        due("the rest stays nobody's", x.cell(4, 1, 3), NONE);
+        due("land(0)", x.land(0), 2 + 4);
+        due("land(1)", x.land(1), 3);
+        SeenToMove back = with("field 2 2; owner r; owner b; figure a r 0 0 east 1; hedge 1 1; figure c b 0 1 north 9;");
+        back.hours(6);
+        due("a came back to its own cell", back.figure(0, 0) * 10 + back.figure(0, 5), 2);
+        due("twice gone, one cell more", back.land(0), 2);
+    }
+
     @Says(promise = {6, 16}, under = RULES, text = "else it FACES the next SIDE (behind 3 comes 0)")
     static void facesTheNextSideRoundTo0() {
         SeenToMove x = with("field 2 2; hedge 1 0; hedge 0 1; owner o; figure a o 0 0 west 1;");
@@ -239,6 +256,30 @@ final class RuleBoundaries extends Boundary {
     }
 
     // ---- ==== 3.
+
+    @Says(promise = {18, 19, 20, 22, 24, 26, 35, 36}, under = WHAT_WOULD_BE, text = "All by what would go on, if nothing else is done")
+    static void askingChangesNothing() {
+        SeenToMove x = with("field 4 4; owner o; figure a o 0 0 east 1; figure b o 2 2 east 2; looker m 3 3 west; looker n 0 3 north;");
+        x.hours(3);
+        x.shut(1);
+        String before = allThatIsSo(x);
+        x.where(0, 200);
+        x.comes(0, 3, 3);
+        x.cover();
+        x.few();
+        x.blind(0, 3, 3, 60);
+        x.blind(1, 3, 2, 60);
+        fits(x, 0, 0, 1, 0);
+        x.ask();
+        x.grown();
+        x.farthest();
+        x.mean(0);
+        x.line(0);
+        x.odds(0, 30, 7);
+        book(x, "hour 5; m shuts; n opens;", 0);
+        due("what is so", allThatIsSo(x), before);
+        due("the acts that can be undone", x.undo(), 1);
+    }
 
     @Says(promise = {18, 19, 24}, under = WHAT_WOULD_BE, text = "HOUR 1000 no matter.")
     static void goesOnBeyondHour1000() {

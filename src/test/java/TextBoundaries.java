@@ -240,6 +240,9 @@ final class TextBoundaries extends Boundary {
         due("the first cell", x.cell(0, 0, 0), 1);
         due("the last cell", x.cell(2, 3, 0), 1);
         due("another one", x.cell(1, 0, 0) + x.cell(0, 1, 0) + x.cell(2, 2, 0), 0);
+        x = with("field 9 9; owner a; land a 8; hedge 8 8;");
+        due("the last cell there may be", x.cell(8, 8, 0), 1);
+        due("the last row there may be", x.land(0), 9);
     }
 
     @Says(promise = 4, under = TERMS, text = "no two of hedges, FIGURES, LOOKERS are in one cell")
@@ -430,11 +433,11 @@ final class TextBoundaries extends Boundary {
 
     @Says(promise = 39, under = TERMS, text = "'by' LOOKER (he sees it)")
     static void byOneWhoSeesIt() {
-        SeenToMove x = with("owner o; figure a o 3 0 east 1; looker k 0 5 east; looker m 0 0 east; looker n 3 5 north 1 1;");
+        SeenToMove x = with("owner o; figure a o 3 0 east 1; figure b o 2 5 south 9; looker k 0 5 east; looker m 0 0 east; looker n 3 5 north 1 1;");
         sentence(x, "by m");
-        due("he sees it", said(x), 1);
+        due("he sees a", said(x), 1);
         sentence(x, "by k");
-        due("another line", said(x), 0);
+        due("he sees b", said(x), 2);
         sentence(x, "by n");
         due("not his hour", said(x), 0);
         x.hours(1);
@@ -442,7 +445,7 @@ final class TextBoundaries extends Boundary {
         x.shut(2);
         due("shut", said(x), 0);
         sentence(x, "by m");
-        due("he still sees it", said(x), 1);
+        due("he still sees a", said(x), 1);
     }
 
     @Says(promise = 39, under = TERMS, text = "( 'gone' | 'every' | 'number' ) SIGN NUMBER (how often it went a cell on so far; its number)")
@@ -463,8 +466,9 @@ final class TextBoundaries extends Boundary {
         // a is seen and of o, b seen and of p, c of o, d of p.
         SeenToMove x = with("owner o; owner p; figure a o 1 0 east 9; figure b p 2 0 east 9; figure c o 1 5 east 9; figure d p 2 5 east 9; looker m 0 0 east;");
         String[] texts = {"seen", "seen and of o", "seen or of o", "not seen and of o", "not (seen and of o)", "of p or seen and of o",
-            "(of p or seen) and of o", "of o and seen or of p", "not not seen or not of o", "seen or of o and of p", "of o and of p or of p and seen"};
-        int[] due = {3, 1, 7, 4, 14, 11, 1, 11, 11, 3, 2};
+            "(of p or seen) and of o", "of o and seen or of p", "not not seen or not of o", "seen or of o and of p", "of o and of p or of p and seen",
+            "of o and (seen)", "of p or (of o and (not seen))"};
+        int[] due = {3, 1, 7, 4, 14, 11, 1, 11, 11, 3, 2, 1, 14};
         for (int i = 0; i < texts.length; i++) {
             sentence(x, texts[i]);
             due(texts[i], said(x), due[i]);
