@@ -95,6 +95,12 @@ final class CallBoundaries extends Boundary {
         due("end(17)", x.end(17), true);
         due("no more than these", x.end(18), false);
         due("the first bytes alone", x.field(), 2);
+        feed(x, "seenabc");
+        x.end(4);
+        due("a word that is cut", x.sentence(), 1);
+        feed(x, "gone=1000");
+        x.end(8);
+        due("a number that is cut", x.sentence(), 1);
     }
 
     @Says(promise = {4, 26, 36, 38, 42}, text = "(empty then, with a FAULT, too, here and below)")
@@ -478,6 +484,10 @@ final class CallBoundaries extends Boundary {
         due("three then", x.coverBy(2), 0);
         x.cover();
         due("none now", x.coverBy(0), NONE);
+        field(x, "owner o; figure a o 5 0 east 1; figure b o 0 5 east 1; looker p 5 5 east; looker q 0 0 west;");
+        due("both", x.cover(), 2);
+        field(x, "owner o; figure a o 5 0 east 1; figure b o 0 5 east 1; looker p 5 5 east;");
+        due("one of both, as there is one looker now", x.cover(), 1);
     }
 
     @Says(promise = 22, text = "(0: there are no FIGURES); NONE: not by all.")

@@ -90,6 +90,8 @@ final class RuleBoundaries extends Boundary {
         due("to a free cell", x.figure(2, 7), 1);
         due("not to a looker", x.figure(3, 7), 0);
         due("c alone", x.now(2), 4);
+        SeenToMove corners = with("field 9 9; owner o; hedge 0 0; hedge 8 8; figure a o 1 0 west 9; figure b o 0 1 north 9; figure c o 7 8 east 9;");
+        due("not into hedges in the first and the last cell", corners.now(2), 0);
     }
 
     @Says(promise = 11, under = RULES, text = "To TURN to a SIDE: 1 he looks that way (SHUT or not): he does.")
@@ -116,6 +118,7 @@ final class RuleBoundaries extends Boundary {
         due("a hedge", y.walk(0, 3), 2);
         due("a figure", y.walk(0, 0), 3);
         due("a looker", y.walk(0, 1), 3);
+        due("a hedge in the first cell", with("hedge 0 0; looker m 1 0 east;").walk(0, 2), 2);
         due("he is where he was", y.looker(0, 0) * 10 + y.looker(0, 1), 11);
         y.shut(0);
         due("shut, too", y.walk(0, 2), 0);
@@ -443,6 +446,7 @@ final class RuleBoundaries extends Boundary {
         SeenToMove x = with("field 6 5; owner o; hedge 3 0; figure a o 1 2 east 1; looker m 2 2 west;");
         due("through a figure and a looker who looks", fits(x, 0, 2, 1, 2, 2, 2), 1);
         due("fitsAt(0)", x.fitsAt(0), 0);
+        due("all cells but one that has a hedge", fits(with("hedge 0 0;"), 1, 0, 2, 0), 1);
         due("turned by a hedge", fits(x, 2, 0, 2, 0, 2, 1), 2);
         due("fitsAt(0)", x.fitsAt(0), 0);
         due("fitsAt(1)", x.fitsAt(1), 10);
@@ -603,11 +607,17 @@ final class RuleBoundaries extends Boundary {
     @Says(promise = {4, 17, 39}, under = WHAT_WOULD_BE, text = "A new FIELD: HOUR 0, no eyes SHUT, no SENTENCE; nothing can be undone (what other calls told last stays).")
     static void newFieldBeginsAnew() {
         String text = "field 4 4; owner o; figure a o 0 0 east 1; looker m 3 3 west;";
-        SeenToMove x = with("field 9 9; hedge 2 2; hedge 8 8; owner p; land p 7; land p 3; looker n 1 1 south; looker k 0 7 east;");
+        SeenToMove x = with("field 9 9; hedge 2 2; hedge 8 8; owner p; land p 7; land p 3; looker n 1 1 south; looker k 2 1 east; looker j 0 3 north; "
+            + "figure d p 3 2 west 1; figure e p 2 0 east 1; figure f p 5 5 north 1;");
+        x.cover();
         x.hours(3);
         field(x, text);
-        due("none of another field's hedges, land, hours", allThatIsSo(x), allThatIsSo(with(text)));
+        SeenToMove y = with(text);
+        due("none of another field's hedges, land, hours", allThatIsSo(x), allThatIsSo(y));
+        due("nor of its lookers", x.cover(), y.cover());
         x.hours(5);
+        y.hours(5);
+        due("nor of its figures", allThatIsSo(x), allThatIsSo(y));
         x.shut(0);
         sentence(x, "gone > 0");
         x.cover();

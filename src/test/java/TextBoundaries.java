@@ -259,6 +259,8 @@ final class TextBoundaries extends Boundary {
                 goodField(text + "0 2" + behind[j], 3);
             }
         }
+        badField("hedge 0 0; hedge 0 ^0;", 3);
+        badField("field 9 9; hedge 8 8; looker m 8 ^8 east;", 3);
     }
 
     @Says(promise = {4, 6, 7}, under = TERMS, text = "SIDE: 'east', 'south', 'west', 'north', numbered from 0 (X more, Y more, X less, Y less)")
